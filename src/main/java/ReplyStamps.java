@@ -295,7 +295,8 @@ public final class ReplyStamps {
         if (what == 0) {
             return fitting;
         }
-        if (what != 1 && what != 2) {
+        // when no town fits, there is none to tell from another
+        if (what != 1 && what != 2 || fitting == 0) {
             return NONE;
         }
         int telling = NONE;
@@ -1301,7 +1302,7 @@ public final class ReplyStamps {
         }
     }
 
-    /** Reads a text as a union. Behind the first fault every question about the next token is answered no. */
+    /** Reads a text as a union. Behind the first fault the token at hand is a bad one, which nothing takes. */
     private static final class Reader {
         private static final int FAULT_TEXT = 1;
         private static final int FAULT_GIVEN = 2;
@@ -1319,7 +1320,10 @@ public final class ReplyStamps {
         private static final int MOST_LOST = 100;
 
         private final Tokens tokens;
-        private int next = 0;
+        private int next = NONE;
+        private int kind = Tokens.END;
+        private int value = 0;
+        private int from = 0;
         private final Union into = new Union();
         private final int[] code;
         private int codeLength = 0;
@@ -1332,12 +1336,13 @@ public final class ReplyStamps {
             tokens = new Tokens(length);
             tokens.split(text, length);
             code = new int[Math.max(0, length)];
+            take();
         }
 
         private void readUnion() {
-            for (int n = 0; n <= MOST_STATEMENTS && fault == 0 && kindNow() != Tokens.END; n++) {
+            for (int n = 0; n <= MOST_STATEMENTS && fault == 0 && kind != Tokens.END; n++) {
                 if (n == MOST_STATEMENTS) {
-                    fail(FAULT_MANY, fromNow());
+                    fail(FAULT_MANY, from);
                 } else {
                     readStatement();
                     skipSign(';');
@@ -1347,7 +1352,7 @@ public final class ReplyStamps {
         }
 
         private void readStatement() {
-            int statement = kindNow() == Tokens.OWN ? valueNow() : NONE;
+            int statement = kind == Tokens.OWN ? value : NONE;
             switch (statement) {
                 case Tokens.TOWN: readTown(); break;
                 case Tokens.CART: readCart(); break;
@@ -1369,16 +1374,16 @@ public final class ReplyStamps {
 
         private void readTown() {
             if (into.towns >= MOST_TOWNS) {
-                fail(FAULT_MANY, fromNow());
+                fail(FAULT_MANY, from);
                 return;
             }
             take();
-            if (kindNow() != Tokens.NAME) {
+            if (kind != Tokens.NAME) {
                 failHere();
-            } else if (into.townNamed(valueNow()) != NONE) {
-                fail(FAULT_GIVEN, fromNow());
+            } else if (into.townNamed(value) != NONE) {
+                fail(FAULT_GIVEN, from);
             } else {
-                into.names[into.towns] = valueNow();
+                into.names[into.towns] = value;
                 into.towns++;
                 take();
             }
@@ -1386,18 +1391,18 @@ public final class ReplyStamps {
 
         private void readCart() {
             if (into.carts >= MOST_CARTS) {
-                fail(FAULT_MANY, fromNow());
+                fail(FAULT_MANY, from);
                 return;
             }
             take();
-            int from = readNamed(NONE, true);
+            int town = readNamed(NONE, true);
             skipOwn(Tokens.TO);
-            int to = readNamed(from, true);
+            int other = readNamed(town, true);
             skipOwn(Tokens.DAYS);
             int days = readNumber(1, MOST_CART_DAYS);
-            if (fault == 0 && into.isPair(from, to)) {
-                into.way[from * MOST_TOWNS + to] = days;
-                into.way[to * MOST_TOWNS + from] = days;
+            if (fault == 0 && into.isPair(town, other)) {
+                into.way[town * MOST_TOWNS + other] = days;
+                into.way[other * MOST_TOWNS + town] = days;
                 into.carts++;
             }
         }
@@ -1415,17 +1420,17 @@ public final class ReplyStamps {
 
         /** A town's name; as the second one of a pair it must be another town, for a cart without a cart so far. */
         private int readNamed(int first, boolean forCart) {
-            if (kindNow() != Tokens.NAME) {
+            if (kind != Tokens.NAME) {
                 failHere();
                 return NONE;
             }
-            int town = into.townNamed(valueNow());
+            int town = into.townNamed(value);
             boolean wrong = town == NONE || town == first;
             if (!wrong && forCart && into.isPair(first, town)) {
                 wrong = into.way[first * MOST_TOWNS + town] > 0;
             }
             if (wrong) {
-                fail(FAULT_TOWN, fromNow());
+                fail(FAULT_TOWN, from);
                 return NONE;
             }
             take();
@@ -1433,13 +1438,13 @@ public final class ReplyStamps {
         }
 
         private int readNumber(int least, int most) {
-            if (kindNow() != Tokens.NUMBER) {
+            if (kind != Tokens.NUMBER) {
                 failHere();
                 return 0;
             }
-            int number = valueNow();
+            int number = value;
             if (number < least || number > most) {
-                fail(FAULT_NUMBER, fromNow());
+                fail(FAULT_NUMBER, from);
                 return 0;
             }
             take();
@@ -1448,7 +1453,7 @@ public final class ReplyStamps {
 
         private int[] readRule(int[] before, int statement) {
             if (before != null) {
-                fail(FAULT_MANY, fromNow());
+                fail(FAULT_MANY, from);
                 return before;
             }
             take();
@@ -1492,7 +1497,8 @@ public final class ReplyStamps {
             } else if (isSign('[')) {
                 if (opens()) {
                     readTest();
-                    closeWith(']');
+                    skipSign(']');
+                    open--;
                 }
             } else if (isOwn(Tokens.ALL)) {
                 take();
@@ -1504,7 +1510,7 @@ public final class ReplyStamps {
 
         private void readComparison() {
             readSum();
-            int sign = kindNow() == Tokens.SIGN ? valueNow() : NONE;
+            int sign = kind == Tokens.SIGN ? value : NONE;
             if (sign != '<' && sign != '>' && sign != '=') {
                 failHere();
                 return;
@@ -1535,13 +1541,14 @@ public final class ReplyStamps {
         }
 
         private void readPart() {
-            if (kindNow() == Tokens.NUMBER) {
-                emit(Office.TOLD + valueNow());
+            if (kind == Tokens.NUMBER) {
+                emit(Office.TOLD + value);
                 take();
             } else if (isSign('(')) {
                 if (opens()) {
                     readSum();
-                    closeWith(')');
+                    skipSign(')');
+                    open--;
                 }
             } else if (isOwn(Tokens.MIN) || isOwn(Tokens.MAX)) {
                 readExtreme(isOwn(Tokens.MIN) ? Office.SMALLER : Office.GREATER);
@@ -1553,7 +1560,7 @@ public final class ReplyStamps {
         }
 
         private void readFactNamed() {
-            int named = kindNow() == Tokens.OWN ? valueNow() : NONE;
+            int named = kind == Tokens.OWN ? value : NONE;
             boolean counted = named == Tokens.SENT || named == Tokens.GOT;
             if (named < Tokens.HELD || named > Tokens.GOT || counted && inWorth) {
                 failHere();
@@ -1570,7 +1577,8 @@ public final class ReplyStamps {
                 readSum();
                 skipSign(',');
                 readSum();
-                closeWith(')');
+                skipSign(')');
+                open--;
                 emit(join);
             }
         }
@@ -1583,7 +1591,8 @@ public final class ReplyStamps {
                 readSum();
                 skipSign(',');
                 readSum();
-                closeWith(')');
+                skipSign(')');
+                open--;
                 emit(Office.CHOOSE);
             }
         }
@@ -1598,17 +1607,12 @@ public final class ReplyStamps {
 
         private boolean opens() {
             if (open >= MOST_OPEN) {
-                fail(FAULT_OPEN, fromNow());
+                fail(FAULT_OPEN, from);
                 return false;
             }
             open++;
             take();
             return true;
-        }
-
-        private void closeWith(int sign) {
-            skipSign(sign);
-            open--;
         }
 
         private void emit(int act) {
@@ -1618,25 +1622,12 @@ public final class ReplyStamps {
             }
         }
 
-        private int kindNow() {
-            boolean there = fault == 0 && next < tokens.count && next < tokens.kind.length;
-            return there ? tokens.kind[next] : Tokens.BAD;
-        }
-
-        private int valueNow() {
-            return next < tokens.value.length ? tokens.value[next] : NONE;
-        }
-
-        private int fromNow() {
-            return next < tokens.from.length ? tokens.from[next] : NONE;
-        }
-
         private boolean isSign(int sign) {
-            return kindNow() == Tokens.SIGN && valueNow() == sign;
+            return kind == Tokens.SIGN && value == sign;
         }
 
         private boolean isOwn(int word) {
-            return kindNow() == Tokens.OWN && valueNow() == word;
+            return kind == Tokens.OWN && value == word;
         }
 
         private void skipSign(int sign) {
@@ -1656,19 +1647,23 @@ public final class ReplyStamps {
         }
 
         private void take() {
-            if (next < tokens.count - 1) {
+            if (fault == 0 && next < tokens.count - 1) {
                 next++;
+                kind = tokens.kind[next];
+                value = tokens.value[next];
+                from = tokens.from[next];
             }
         }
 
         private void failHere() {
-            fail(FAULT_TEXT, kindNow() == Tokens.BAD ? valueNow() : fromNow());
+            fail(FAULT_TEXT, kind == Tokens.BAD ? value : from);
         }
 
-        private void fail(int kind, int at) {
+        private void fail(int which, int at) {
             if (fault == 0) {
-                fault = kind;
+                fault = which;
                 place = at;
+                kind = Tokens.BAD;
             }
         }
     }

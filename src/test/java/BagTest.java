@@ -89,6 +89,9 @@ public final class BagTest {
         check.due("one alone", x.whose(0), 2);
         check.due("the first tells it", x.whose(1), 0);
         check.due("it is left", x.whose(2), 1);
+        bag(x, 1, 255);
+        check.due("none fits: none tells", x.whose(1), NONE);
+        check.due("none fits: none is left", x.whose(2), NONE);
         check.due("no towns: none tells", new ReplyStamps().whose(1), NONE);
         check.due("no towns: none is left", new ReplyStamps().whose(2), NONE);
         check.due("one town", Check.of("town a;").whose(1), 0);

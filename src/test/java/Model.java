@@ -501,7 +501,7 @@ final class Model {
         }
         int telling = NONE;
         int fewest = NONE;
-        for (int by = 0; by < towns(); by++) {
+        for (int by = 0; by < towns() && bits != 0; by++) {
             int most = 0;
             for (int number = 0; number <= 99; number++) {
                 int left = 0;
