@@ -101,12 +101,19 @@ public final class ModelTest {
         return of[random.nextInt(of.length)];
     }
 
+    private int extreme() {
+        return any(Integer.MIN_VALUE, Integer.MAX_VALUE, -715827883, 715827882, 1 << 30, -(1 << 30));
+    }
+
     private int town() {
+        if (random.nextInt(100) == 0) {
+            return extreme();
+        }
         return random.nextInt(12) == 0 ? random.nextInt(9) - 1 : random.nextInt(Math.max(1, model.towned()));
     }
 
     private int what(int most) {
-        return random.nextInt(most + 3) - 1;
+        return random.nextInt(50) == 0 ? extreme() : random.nextInt(most + 3) - 1;
     }
 
     private void some() throws ReflectiveOperationException {
