@@ -62,6 +62,10 @@ public final class BagTest {
         check.due("what is held now", x.whose(0), 4);
         x.undo();
         check.due("undone", x.whose(0), 6);
+        x.find(1, 0);
+        bag(x, 1, 3);
+        x.undo();
+        check.due("a bag is no act", x.whose(0), 20);
         check.due("whose(3)", x.whose(3), NONE);
         check.due("whose(-1)", x.whose(-1), NONE);
         check.due("no towns", new ReplyStamps().whose(0), 0);

@@ -153,6 +153,8 @@ public final class FaultTest {
         check.fault(eighty + " encl 1;", 6, 561);
         check.fault(eighty + "town a;", 6, 560);
         check.fault(eighty + "lost 999", 6, 560);
+        check.fault(eighty + "$", 6, 560);
+        check.fault(eighty + "abcdefgh", 6, 560);
     }
 
     /** What a rule may be made of. */

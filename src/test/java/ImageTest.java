@@ -47,6 +47,8 @@ public final class ImageTest {
         check.due("of the latest image", x.octet(2), 4);
         x.image();
         check.due("of the next one", x.octet(2), 5);
+        Check.union(x, "town a;");
+        check.due("another union leaves it", x.octet(2), 5);
     }
 
     private static void on(Check check) {
