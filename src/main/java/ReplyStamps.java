@@ -1252,8 +1252,9 @@ public final class ReplyStamps {
             }
         }
 
+        /** A token that is bad already stays so at its place: the first fault along the text counts. */
         private void spoil(int place) {
-            if (count > 0) {
+            if (count > 0 && kind[count - 1] != BAD) {
                 kind[count - 1] = BAD;
                 value[count - 1] = place;
             }

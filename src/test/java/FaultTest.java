@@ -67,6 +67,31 @@ public final class FaultTest {
         check.fault("writes 1<2and all;", 1, 10);
         check.fine("writes 1<2 and all;", 1);
         check.fine("likes(1)+held*2;", 1);
+        gluedAndLong(check);
+    }
+
+    /** The missing blank is ahead of the 7th letter or the 5th digit; what is too long first is so at itself. */
+    private static void gluedAndLong(Check check) {
+        check.fault("encl12345; ", 1, 4);
+        check.fault("encl1234567890;", 1, 4);
+        check.fault("encl1234;", 1, 4);
+        check.fault("encl 12345;", 1, 9);
+        check.fault("encl\n12345;", 1, 9);
+        check.fault("town abc12345;", 1, 8);
+        check.fault("town a;town b;holds a of b12345;", 1, 26);
+        check.fault("likes 1abcdefg;", 1, 7);
+        check.fault("likes 1234abcdefghijk;", 1, 10);
+        check.fault("writes 1<2writesall;", 1, 10);
+        check.fault("likes 12345abcdefg;", 1, 10);
+        check.fault("town abcdefg12345;", 1, 11);
+        check.fault("likes 1held12345;", 1, 7);
+        check.fault("encl1a2345678;", 1, 4);
+        // the one ahead of the missing blank is looked at first
+        check.fault("xyz12345", 1, 0);
+        check.fault("1abcdefg", 1, 0);
+        check.fault("encl 9abcdefg", 4, 5);
+        check.fault("town a;town a12345", 2, 12);
+        check.fault("cart x12345", 3, 5);
     }
 
     private static void names(Check check) {

@@ -14,7 +14,8 @@ public final class ModelTest {
     private static final int CALLS = 512;
     private static final String[] NAMES = {"a", "b", "ash", "bay", "cod", "sevena", "zz", "holt", "daysx", "tow"};
     private static final String[] PIECES = ("town cart to days holds of writes likes worth encl lost held far day sent got if"
-        + " or and not all min max ; ( ) [ ] , < > = + - * / % 0 5 21 101 12345 abcdefg a ash A $ ((((((((").split(" ");
+        + " or and not all min max ; ( ) [ ] , < > = + - * / % 0 5 21 101 12345 abcdefg a ash A $ (((((((("
+        + " encl12345 1abcdefg held1").split(" ");
 
     private final Random random;
     private final Map<String, Method> programs = new HashMap<>();

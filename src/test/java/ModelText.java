@@ -82,10 +82,10 @@ final class ModelText {
             start = text.length();
         }
         int most = word != null ? 6 : number != null ? 4 : 1;
-        if (next.length() > most) {
-            next = "#" + (start + most);
-        } else if ((word != null || number != null) && glued && start == at) {
+        if ((word != null || number != null) && glued && start == at) {
             next = "#" + start;
+        } else if (next.length() > most) {
+            next = "#" + (start + most);
         }
         at = matcher.end();
     }
