@@ -1,7 +1,7 @@
 import java.nio.charset.StandardCharsets;
 
 /** Counts the answers that are not as due, and puts texts on the tape. */
-final class Check {
+class Check {
     static final int NONE = ReplyStamps.NONE;
 
     private int asked = 0;
@@ -64,6 +64,16 @@ final class Check {
             bytes[i] = (byte) octets[i];
         }
         return bytes;
+    }
+
+    /** The union of the text, in the state of an image of these bytes and their check byte. */
+    static ReplyStamps at(String text, int... octets) {
+        ReplyStamps x = of(text);
+        put(x, checked(octets));
+        if (!x.on()) {
+            throw new IllegalStateException("no image of " + text);
+        }
+        return x;
     }
 
     /** The latest image, as bytes. */
