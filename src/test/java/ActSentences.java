@@ -10,8 +10,6 @@ final class ActSentences {
     private static final String AB = "town a;town b;";
     private static final String CART = AB + "cart a to b days 3;";
     private static final String THREE = CART + "town c;holds a of b 3;holds b of a 1;holds b of c 9;";
-    /** No town, and those by which a product with 6 would go around. */
-    private static final int[] NO_TOWNS = {-1, 3, 6, MIN, MAX, 715827882, -715827883, 1 << 30};
     private static final int[] NO_DAYS = {0, -1, 101, MIN, MAX};
 
     private ActSentences() {
@@ -37,24 +35,13 @@ final class ActSentences {
         status(s);
     }
 
-    /** On day 4, with letters under way and kept, a bag, a seed, two acts. */
-    private static ReplyStamps busy() {
-        ReplyStamps x = Check.of(THREE);
-        x.seed(77);
-        x.days(3);
-        x.chance(1);
-        Check.put(x, Check.bytes(0, 0));
-        x.bag();
-        return x;
-    }
-
     private static ReplyStamps onDay(int day) {
         return Check.at(AB, day / 256, day % 256, 0, 0, 0, 0, 0, 0, 0);
     }
 
     /** On a busy object the call is refused, all staying. */
     private static void not(Sentences s, int kind, String call, ToIntFunction<ReplyStamps> asked, int answer) {
-        s.refused(kind, ActSentences::busy, call, asked, answer);
+        s.refused(kind, CallSentences::busy, call, asked, answer);
     }
 
     private static void days(Sentences s) {
@@ -128,7 +115,7 @@ final class ActSentences {
         not(s, 3, "of its own to itself", y -> y.give(1, 1, 1) ? 1 : 0, 0);
         s.refused(3, () -> giving(99), "the third one holds 99", y -> y.give(0, 1, 2) ? 1 : 0, 0);
         s.due("that town itself holds none", giving(99).give(2, 1, 1), true);
-        for (int town : NO_TOWNS) {
+        for (int town : Sentences.NO_TOWNS) {
             not(s, 3, "give(" + town + ", 2, 0)", y -> y.give(town, 2, 0) ? 1 : 0, 0);
             not(s, 3, "give(1, " + town + ", 0)", y -> y.give(1, town, 0) ? 1 : 0, 0);
             not(s, 3, "give(1, 2, " + town + ")", y -> y.give(1, 2, town) ? 1 : 0, 0);
@@ -146,7 +133,7 @@ final class ActSentences {
         s.of(24, "false, refused (3), when it holds 99, they are one, or there are none such.");
         s.refused(3, () -> giving(99), "it holds 99", y -> y.find(2, 1) ? 1 : 0, 0);
         not(s, 3, "they are one", y -> y.find(1, 1) ? 1 : 0, 0);
-        for (int town : NO_TOWNS) {
+        for (int town : Sentences.NO_TOWNS) {
             not(s, 3, "find(" + town + ", 0)", y -> y.find(town, 0) ? 1 : 0, 0);
             not(s, 3, "find(0, " + town + ")", y -> y.find(0, town) ? 1 : 0, 0);
         }
@@ -162,7 +149,7 @@ final class ActSentences {
         s.of(25, "NONE, refused (3), when it holds none, they are one, or there are none such.");
         s.refused(3, () -> giving(0), "it holds none", y -> y.burn(2, 1), NONE);
         not(s, 3, "they are one", y -> y.burn(1, 1), NONE);
-        for (int town : NO_TOWNS) {
+        for (int town : Sentences.NO_TOWNS) {
             not(s, 3, "burn(" + town + ", 0)", y -> y.burn(town, 0), NONE);
             not(s, 3, "burn(1, " + town + ")", y -> y.burn(1, town), NONE);
         }
@@ -171,7 +158,7 @@ final class ActSentences {
     private static void undo(Sentences s) {
         s.of(26, "The latest ACT is undone: all is as it was ahead of it (but the seed): true;");
         for (int act = 0; act < 6; act++) {
-            ReplyStamps x = busy();
+            ReplyStamps x = CallSentences.busy();
             byte[] before = Check.image(x);
             int kept = x.has(7);
             acted(x, act);
@@ -183,7 +170,7 @@ final class ActSentences {
             s.due("act " + act + ": has(9)", x.has(9), 2);
             s.due("act " + act + ": but the seed", x.has(10), seed);
         }
-        ReplyStamps drawn = busy();
+        ReplyStamps drawn = CallSentences.busy();
         int seed = drawn.has(10);
         drawn.chance(20);
         s.due("drawn", drawn.has(10) != seed, true);
@@ -228,7 +215,7 @@ final class ActSentences {
     }
 
     private static ReplyStamps allUndone() {
-        ReplyStamps x = busy();
+        ReplyStamps x = CallSentences.busy();
         x.undo();
         x.undo();
         return x;
@@ -237,7 +224,7 @@ final class ActSentences {
     private static void seed(Sentences s) {
         s.of(27, "The seed: true;");
         for (int seed : new int[] {0, 1, 1 << 30, MAX}) {
-            ReplyStamps x = busy();
+            ReplyStamps x = CallSentences.busy();
             s.due("seed(" + seed + ")", x.seed(seed), true);
             s.due("has(10)", x.has(10), seed);
             s.due("no act", x.has(9), 2);
@@ -253,11 +240,7 @@ final class ActSentences {
         x.days(4);
         x.chance(1);
         int[][] want = {{3, 0, 1, 0}, {3, 1, 0, 0}, {4, 0, 1, 1}};
-        for (int k = 0; k < 3; k++) {
-            for (int what = 0; what < 4; what++) {
-                s.due("kept(" + k + ", " + what + ")", x.kept(k, what), want[k][what]);
-            }
-        }
+        s.table("kept", x::kept, want);
         s.of(28, "NONE when there is none such, or for others.");
         for (int k : new int[] {-1, 3, 50, MIN, MAX}) {
             s.due("kept(" + k + ", 0)", x.kept(k, 0), NONE);
@@ -277,7 +260,7 @@ final class ActSentences {
         s.due("no towns", new ReplyStamps().image(), 4);
         s.due("one town", Check.of("town a;").image(), 4);
         s.due("two towns", Check.of(AB).image(), 10);
-        ReplyStamps x = busy();
+        ReplyStamps x = CallSentences.busy();
         s.due("three towns", x.image(), 4 + 18 + 3 * x.has(4));
         s.due("no act", x.has(9), 2);
         int[] most = new int[93 + 180];
@@ -291,7 +274,7 @@ final class ActSentences {
 
     private static void octet(Sentences s) {
         s.of(30, "Byte k of the latest image(); NONE when there is none such.");
-        ReplyStamps x = busy();
+        ReplyStamps x = CallSentences.busy();
         s.due("ahead of any", x.octet(0), NONE);
         int length = x.image();
         s.due("the first", x.octet(0), 0);
@@ -305,6 +288,7 @@ final class ActSentences {
         x.image();
         s.due("of the latest", x.octet(1), 9);
         Check.union(x, AB);
+        s.due("behind another union the latest still", x.octet(1), 9);
         x.image();
         s.due("a shorter one: the last", x.octet(9) >= 0, true);
         s.due("a shorter one: none behind", x.octet(10), NONE);
@@ -312,13 +296,15 @@ final class ActSentences {
 
     private static void on(Sentences s) {
         s.of(31, "The tape (it goes) is AN IMAGE of this UNION: true, all is as it tells, nothing is KEPT, no ACT can be undone;");
-        ReplyStamps x = busy();
+        ReplyStamps x = CallSentences.busy();
         byte[] image = Check.image(x);
         int[] all = new int[7];
         for (int what = 0; what < 7; what++) {
             all[what] = x.has(what);
         }
+        int seed = x.has(10);
         x.days(50);
+        x.later(0, 1, 60, 0);
         Check.put(x, image);
         s.due("on()", x.on(), true);
         s.due("nothing is left", x.end(1), false);
@@ -331,12 +317,14 @@ final class ActSentences {
         s.due("no act: has(9)", x.has(9), 0);
         s.due("no act: undo()", x.undo(), false);
         s.due("the bag stays", x.has(8), 1);
+        s.due("the seed stays", x.has(10), seed);
     }
 
     /** It goes on from an image as from the state of which it is. */
     private static void onAgain(Sentences s) {
         s.of(31, "all is as it tells,");
-        ReplyStamps x = busy();
+        ReplyStamps x = Check.of(THREE);
+        x.days(5);
         byte[] image = Check.image(x);
         ReplyStamps y = Check.of(THREE);
         Check.put(y, image);

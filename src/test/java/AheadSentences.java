@@ -125,6 +125,7 @@ final class AheadSentences {
         s.of(17, "A RING are TOWNS of which each, asked in turn, holds a stamp of the next one, the last one of the first,"
             + " all with ways:");
         row(s, "of three", k -> held(ALL_WAYS, "ac cb ba").ring(0, k), 0, 2, 1);
+        row(s, "not by one that holds a stamp of it alone", k -> held(ALL_WAYS, "ac ca ba").ring(0, k), 0, 2);
         s.due("the last one holds none", held(ALL_WAYS, "ac cb ab").ring(0, NONE), NONE);
         s.due("no ways", held(SIX, "ac cb ba").ring(0, NONE), NONE);
         s.of(17, "the shortest one (2 at least) in which a told one is;");
@@ -163,6 +164,9 @@ final class AheadSentences {
         String rare = "worth 100-held;";
         swapIs(s, "c for d", swapping(rare, 2, 0, 0, 2), 0, 1, 2, 3, 4);
         swapIs(s, "d for c", swapping(rare, 0, 2, 2, 0), 0, 1, 3, 2, 4);
+        String third = AB + "town c;town d;" + rare;
+        swapIs(s, "the other one gives a's", Check.of(third + "holds c of b 2;holds d of a 2;"), 2, 3, 1, 0, 4);
+        swapIs(s, "the first one gives a's", Check.of(third + "holds c of a 2;holds d of b 2;"), 2, 3, 0, 1, 4);
         swapIs(s, "b has none to give", swapping(rare, 2, 0, 0, 0));
         swapIs(s, "a has none to give", swapping(rare, 0, 0, 0, 2));
         swapIs(s, "the last ones", swapping("worth if(held>1,9,1);", 1, 1, 1, 1), 0, 1, 2, 3, 2 * (18 - 1 - 1));

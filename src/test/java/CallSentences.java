@@ -7,8 +7,6 @@ final class CallSentences {
     private static final int MIN = Integer.MIN_VALUE;
     private static final String AB = "town a;town b;";
     private static final String CART = AB + "cart a to b days 2;";
-    /** No town, one that is there not yet, and those by which a product with 6 would go around. */
-    private static final int[] NO_TOWNS = {-1, 3, 6, MIN, MAX, 715827882, -715827883, 1 << 30};
     private static final String THREE = CART + "town c;holds a of b 3;holds b of a 1;holds b of c 9;";
 
     private CallSentences() {
@@ -139,8 +137,8 @@ final class CallSentences {
         s.fine("lost 1" + " ".repeat(1593) + ";", 1);
     }
 
-    /** On day 4, with a letter kept, one under way, a bag, a seed, two acts. */
-    private static ReplyStamps busy() {
+    /** Of three towns on day 4, with letters under way and kept, a bag, a seed, two acts. */
+    static ReplyStamps busy() {
         ReplyStamps x = Check.of(THREE + "lost 100;");
         x.seed(77);
         x.days(3);
@@ -249,17 +247,13 @@ final class CallSentences {
         s.of(7, "Letter k (0 .. 5) of the NAME of a TOWN: 1 .. 26; 0 behind it;");
         ReplyStamps x = Check.of("town a;town azmzaz;town z;");
         int[][] want = {{1, 0, 0, 0, 0, 0}, {1, 26, 13, 26, 1, 26}, {26, 0, 0, 0, 0, 0}};
-        for (int town = 0; town < 3; town++) {
-            for (int k = 0; k < 6; k++) {
-                s.due("letter(" + town + ", " + k + ")", x.letter(town, k), want[town][k]);
-            }
-        }
+        s.table("letter", x::letter, want);
         s.due("zzzzzz", Check.of("town zzzzzz;").letter(0, 5), 26);
         s.of(7, "NONE when there is none such.");
         for (int k : new int[] {-1, 6, MIN, MAX}) {
             s.due("letter(1, " + k + ")", x.letter(1, k), NONE);
         }
-        for (int town : NO_TOWNS) {
+        for (int town : Sentences.NO_TOWNS) {
             s.due("letter(" + town + ", 0)", x.letter(town, 0), NONE);
         }
     }
@@ -276,7 +270,7 @@ final class CallSentences {
         s.due("no way", Check.of(AB).pair(0, 1, 3), NONE);
         s.of(8, "NONE when there are none such, they are one, or for others.");
         x = Check.of(THREE);
-        for (int town : NO_TOWNS) {
+        for (int town : Sentences.NO_TOWNS) {
             s.due("pair(" + town + ", 0, 0)", x.pair(town, 0, 0), NONE);
             s.due("pair(0, " + town + ", 3)", x.pair(0, town, 3), NONE);
         }
@@ -293,11 +287,7 @@ final class CallSentences {
         ReplyStamps x = Check.of(THREE);
         x.days(2);
         int[][] want = {{0, 1, 1}, {1, 0, 1}, {0, 1, 2}};
-        for (int k = 0; k < 3; k++) {
-            for (int what = 0; what < 3; what++) {
-                s.due("mail(" + k + ", " + what + ")", x.mail(k, what), want[k][what]);
-            }
-        }
+        s.table("mail", x::mail, want);
         s.of(9, "NONE when there is none such, or for others.");
         for (int k : new int[] {-1, 3, 60, MIN, MAX}) {
             s.due("mail(" + k + ", 0)", x.mail(k, 0), NONE);
@@ -323,7 +313,7 @@ final class CallSentences {
         s.due("writes(0)", x.writes(0), 1);
         s.due("writes(1)", x.writes(1), 0);
         s.due("to none", x.writes(2), NONE);
-        for (int town : NO_TOWNS) {
+        for (int town : Sentences.NO_TOWNS) {
             s.due("writes(" + town + ")", x.writes(town), NONE);
         }
         s.due("no letter is written by it", x.has(4), 0);
@@ -334,11 +324,7 @@ final class CallSentences {
         s.of(11, "Behind n DAYS AHEAD (0 .. 60): 0 stamps of another TOWN that a TOWN holds, 1 sent to it, 2 got from it.");
         ReplyStamps x = Check.of(THREE);
         int[][] want = {{3, 0, 0}, {2, 1, 0}, {1, 2, 0}, {1, 3, 1}};
-        for (int n = 0; n < 4; n++) {
-            for (int what = 0; what < 3; what++) {
-                s.due("later(0, 1, " + n + ", " + what + ")", x.later(0, 1, n, what), want[n][what]);
-            }
-        }
+        s.table("later 0, 1, ", (n, what) -> Check.of(THREE).later(0, 1, n, what), want);
         ReplyStamps gone = Check.of(THREE);
         gone.days(60);
         for (int what = 0; what < 3; what++) {
@@ -346,7 +332,7 @@ final class CallSentences {
         }
         s.due("it is day 0 still", x.has(2), 0);
         s.of(11, "NONE when there are none such, they are one, n can't be, or for others.");
-        for (int town : NO_TOWNS) {
+        for (int town : Sentences.NO_TOWNS) {
             s.due("later(" + town + ", 0, 1, 0)", x.later(town, 0, 1, 0), NONE);
             s.due("later(0, " + town + ", 1, 0)", x.later(0, town, 1, 0), NONE);
         }
@@ -372,7 +358,7 @@ final class CallSentences {
         s.due("on the last day", Check.at(CART, 3, 229, 0, 0, 0, 0, 0, 0, 1, 0, 1, 2).comes(0, 1), 2);
         ReplyStamps x = Check.of(THREE);
         s.due("none does", x.comes(0, 2), NONE);
-        for (int town : NO_TOWNS) {
+        for (int town : Sentences.NO_TOWNS) {
             s.due("comes(" + town + ", 0)", x.comes(town, 0), NONE);
             s.due("comes(0, " + town + ")", x.comes(0, town), NONE);
         }
@@ -403,7 +389,7 @@ final class CallSentences {
         ReplyStamps x = Check.of(THREE);
         s.due("word(0)", x.word(0), 3);
         s.due("itself alone", x.word(2), 4);
-        for (int town : NO_TOWNS) {
+        for (int town : Sentences.NO_TOWNS) {
             s.due("word(" + town + ")", x.word(town), NONE);
         }
         s.due("a new object", new ReplyStamps().word(0), NONE);
@@ -437,7 +423,7 @@ final class CallSentences {
         s.due("b of a", x.cut(1, 0, 0), 6);
         s.due("no word goes anyway", x.cut(0, 2, NONE), 0);
         s.of(16, "NONE when 3 are not enough, there are none such, they are one, or there is no k-th.");
-        for (int town : NO_TOWNS) {
+        for (int town : Sentences.NO_TOWNS) {
             s.due("cut(" + town + ", 0, NONE)", x.cut(town, 0, NONE), NONE);
             s.due("cut(0, " + town + ", NONE)", x.cut(0, town, NONE), NONE);
         }
@@ -464,7 +450,7 @@ final class CallSentences {
         }
         s.due("none with c", x.ring(2, NONE), NONE);
         s.due("none with c, nor it in it", x.ring(2, 0), NONE);
-        for (int town : NO_TOWNS) {
+        for (int town : Sentences.NO_TOWNS) {
             s.due("ring(" + town + ", NONE)", x.ring(town, NONE), NONE);
             s.due("ring(" + town + ", 0)", x.ring(town, 0), NONE);
         }
@@ -558,7 +544,9 @@ final class CallSentences {
         s.due("of three", Check.of(THREE).whose(2), 2);
         s.due("no towns", new ReplyStamps().whose(2), NONE);
         bagOf(x, 0, 1);
-        s.due("one alone", x.whose(2), 1);
+        s.due("b alone", x.whose(2), 1);
+        bagOf(x, 1, 3);
+        s.due("a alone", x.whose(2), 1);
         s.of(20, "NONE for others.");
         for (int what : new int[] {-1, 3, MIN, MAX}) {
             s.due("whose(" + what + ")", x.whose(what), NONE);

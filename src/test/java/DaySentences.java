@@ -62,13 +62,16 @@ final class DaySentences {
         s.due("9 less one", x.mail(0, 2), 8);
         s.due("2 less one", x.mail(1, 2), 1);
         s.of(21, "those with none left come, in the order in which they were written:");
-        x = Check.at(nine, 0, 0, 0, 0, 0, 0, 0, 0, 4, 1, 0, 2, 0, 1, 1, 1, 0, 1, 0, 1, 3);
+        x = Check.at(nine, 0, 0, 0, 0, 0, 0, 0, 0, 5, 1, 0, 2, 0, 1, 1, 1, 0, 1, 1, 0, 3, 0, 1, 4);
         s.due("two come", x.days(1), 2);
         s.due("the first of them", x.kept(0, 1), 0);
         s.due("the second of them", x.kept(1, 1), 1);
-        s.due("two stay", x.has(4), 2);
-        s.due("the first of those", x.mail(0, 0), 1);
-        s.due("the second of those", x.mail(1, 0), 0);
+        int[] staying = {1, 1, 0};
+        s.due("those that stay", x.has(4), staying.length);
+        for (int k = 0; k < staying.length; k++) {
+            s.due("one that stays is from", x.mail(k, 0), staying[k]);
+            s.due("its days", x.mail(k, 2), k + 1);
+        }
         s.due("one comes on the next day", x.days(1), 1);
     }
 
@@ -235,6 +238,11 @@ final class DaySentences {
         s.due("the seed behind them", x.has(10), seed);
         s.due("none comes", x.chance(9), 0);
         s.due("no draw", x.has(10), seed);
+        for (int below : new int[] {0, 100}) {
+            x = oneBySeed(5, below);
+            x.chance(1);
+            s.due("drawn with lost " + below + ", too", x.has(10), Draw.nextSeed(5));
+        }
         s.of(22, "it brings nothing.");
         x = oneBySeed(1, 100);
         s.due("lost", x.chance(1), 1);
@@ -261,10 +269,12 @@ final class DaySentences {
         for (int days = 50; days <= 53; days++) {
             x = Check.of(REPLIES);
             x.days(days);
-            s.due("told of " + (days - 1), x.has(7), Math.min(50, days - 1));
-            s.due("the oldest one told", x.kept(0, 0), Math.max(1, days - 50));
-            s.due("the newest one", x.kept(Math.min(50, days - 1) - 1, 0), days - 1);
-            s.due("none behind", x.kept(Math.min(50, days - 1), 0), NONE);
+            int told = Math.min(50, days - 1);
+            s.due("told of " + (days - 1), x.has(7), told);
+            for (int k = 0; k < told; k++) {
+                s.due("of " + (days - 1) + " the one told at " + k, x.kept(k, 0), days - told + k);
+            }
+            s.due("none behind", x.kept(told, 0), NONE);
         }
     }
 

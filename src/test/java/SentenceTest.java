@@ -1,4 +1,5 @@
 import java.io.IOException;
+import java.util.function.Consumer;
 
 /**
  * All promises, sentence by sentence: ahead of each question stands the promise, and the sentence that it holds in the
@@ -8,13 +9,22 @@ public final class SentenceTest {
     public static void main(String[] args) throws IOException {
         Sentences s = new Sentences();
         asides(s);
-        TextSentences.all(s);
-        FaultSentences.all(s);
-        DaySentences.all(s);
-        AheadSentences.all(s);
-        CallSentences.all(s);
-        ActSentences.all(s);
+        run(s, TextSentences::all);
+        run(s, FaultSentences::all);
+        run(s, DaySentences::all);
+        run(s, AheadSentences::all);
+        run(s, CallSentences::all);
+        run(s, ActSentences::all);
         s.finish();
+    }
+
+    /** A union or an image that was to be asked and was refused ends its part, with the sentence at hand. */
+    private static void run(Sentences s, Consumer<Sentences> part) {
+        try {
+            part.accept(s);
+        } catch (IllegalStateException stopped) {
+            s.due(stopped.getMessage(), false, true);
+        }
     }
 
     private static void asides(Sentences s) {

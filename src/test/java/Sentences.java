@@ -1,11 +1,15 @@
 import java.io.IOException;
 import java.util.ArrayList;
 import java.util.List;
+import java.util.function.IntBinaryOperator;
 import java.util.function.Supplier;
 import java.util.function.ToIntFunction;
 
 /** A check that names, ahead of its questions, the promise and the sentence of the document that they hold. */
 final class Sentences extends Check {
+    /** No town of three, nor of any union; with some of them a product with 6 goes around. */
+    static final int[] NO_TOWNS = {-1, 3, 6, Integer.MIN_VALUE, Integer.MAX_VALUE, 715827882, -715827883, 1 << 30};
+
     private final Document document;
     private String about = "";
     private int asked = 0;
@@ -61,6 +65,15 @@ final class Sentences extends Check {
     void faultAt(int kind, String marked) {
         int place = marked.indexOf('^');
         fault(marked.substring(0, place) + marked.substring(place + 1), kind, place);
+    }
+
+    /** Each answer of a call with two numbers, from 0 on. */
+    void table(String call, IntBinaryOperator asked, int[][] want) {
+        for (int i = 0; i < want.length; i++) {
+            for (int j = 0; j < want[i].length; j++) {
+                due(call + "(" + i + ", " + j + ")", asked.applyAsInt(i, j), want[i][j]);
+            }
+        }
     }
 
     /** On a new object the call answers so, one more of its kind alone is refused, and all stays. */

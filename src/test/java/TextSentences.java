@@ -169,10 +169,13 @@ final class TextSentences {
         s.of(4, "min ( SUM , SUM ) ; max ( SUM , SUM ) ;");
         is(s, "min(1+1,3)=2 and min(3,2)=2 and max(2,1+2)=3 and max(3,2)=3 and min(4,4)=max(4,4)");
         s.faultAt(1, "likes min ^1;");
+        s.faultAt(1, "likes min^;");
+        s.faultAt(1, "likes max^+1;");
         s.faultAt(1, "likes min(1^);");
         s.faultAt(1, "likes max(1,2^,3);");
         s.of(4, "if ( TEST , SUM , SUM ) (the first SUM where the TEST holds, else the second one).");
         is(s, "if(1<2,5,6)=5 and if(2<1,5,6)=6 and if(not all,5,6)=6 and if(all,0,6)=0");
+        s.faultAt(1, "likes if^;");
         s.faultAt(1, "likes if(1^,2,3);");
         s.faultAt(1, "likes if(all,2^);");
         s.faultAt(1, "likes if(all,2,3^,4);");
@@ -186,6 +189,8 @@ final class TextSentences {
         s.faultAt(1, "writes ^or all;");
         s.of(4, "BOTH: FACT { and FACT }.");
         is(s, "not[all and all and not all]");
+        is(s, "not[not all and all]");
+        is(s, "all and all");
         is(s, "not[[all or all]and not all]");
         s.faultAt(1, "writes all and^;");
         s.faultAt(1, "writes all ^all;");
@@ -279,6 +284,8 @@ final class TextSentences {
         s.fine("town a;town z;", 2);
         s.fine("town abcdef;town abcdeg;town abcde;town bbcdef;", 4);
         s.faultAt(1, "town abcdef^g;");
+        s.faultAt(1, "town ^`;");
+        s.faultAt(1, "town ^{;");
         s.faultAt(2, "town abcdef;town ^abcdef;");
         s.faultAt(3, "holds ^a of b 1;town a;town b;");
         s.faultAt(3, "town a;cart a to ^b days 1;town b;");
@@ -286,6 +293,8 @@ final class TextSentences {
         s.faultAt(1, "encl ^;");
         s.fine("encl 0;encl 03;encl 003;encl 0003;", 4);
         s.faultAt(1, "encl 0000^3;");
+        s.faultAt(1, "encl ^/;");
+        s.faultAt(1, "encl ^:;");
         is(s, "9999-9998=1 and 0009=9");
         s.faultAt(1, "likes 9999^9;");
     }
