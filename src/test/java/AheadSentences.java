@@ -168,6 +168,8 @@ final class AheadSentences {
         swapIs(s, "the other one gives a's", Check.of(third + "holds c of b 2;holds d of a 2;"), 2, 3, 1, 0, 4);
         swapIs(s, "the first one gives a's", Check.of(third + "holds c of a 2;holds d of b 2;"), 2, 3, 0, 1, 4);
         swapIs(s, "b has none to give", swapping(rare, 2, 0, 0, 0));
+        swapIs(s, "of six towns b alone has some", Check.of(SIX + rare + "holds b of a 9;holds b of d 9;"));
+        swapIs(s, "of six towns e and f", Check.of(SIX + rare + "holds e of a 2;holds f of d 2;"), 4, 5, 0, 3, 4);
         swapIs(s, "a has none to give", swapping(rare, 0, 0, 0, 2));
         swapIs(s, "the last ones", swapping("worth if(held>1,9,1);", 1, 1, 1, 1), 0, 1, 2, 3, 2 * (18 - 1 - 1));
         ReplyStamps own = Check.of(AB + "town c;" + rare + "holds a of b 9;holds b of a 9;holds a of c 9;holds b of c 9;");
@@ -249,6 +251,9 @@ final class AheadSentences {
         s.due("of b, c and d", whose(x, 1, 0, 1), 2);
         s.due("one is left", x.whose(2), 1);
         s.due("all alike", Check.of(SIX).whose(2), 6);
+        x = Check.of(SIX + "holds d of a 1;");
+        s.due("all but d are alike", whose(x, 2, 0, 0), 5);
+        s.due("by the first, then", x.whose(1), 0);
         s.of(20, "of like ones the first.");
         s.due("all alike", Check.of(SIX).whose(1), 0);
         s.due("a and b", Check.of(AB + "holds a of b 1;holds b of a 1;").whose(1), 0);

@@ -6,6 +6,7 @@ final class CallSentences {
     private static final int MAX = Integer.MAX_VALUE;
     private static final int MIN = Integer.MIN_VALUE;
     private static final String AB = "town a;town b;";
+    private static final String SIX = AB + "town c;town d;town e;town f;";
     private static final String CART = AB + "cart a to b days 2;";
     private static final String THREE = CART + "town c;holds a of b 3;holds b of a 1;holds b of c 9;";
 
@@ -232,7 +233,7 @@ final class CallSentences {
         s.of(6, "How many there are:");
         int[] octets = new int[93];
         Arrays.fill(octets, 2, 92, 99);
-        ReplyStamps x = Check.at(AB + "town c;town d;town e;town f;", octets);
+        ReplyStamps x = Check.at(SIX, octets);
         for (int what : new int[] {3, 5, 6}) {
             s.due("99 of each: has(" + what + ")", x.has(what), 30 * 99);
         }
@@ -280,6 +281,10 @@ final class CallSentences {
         for (int what : new int[] {-1, 4, MIN, MAX}) {
             s.due("pair(0, 1, " + what + ")", x.pair(0, 1, what), NONE);
         }
+        x = Check.of(SIX + "holds f of e 7;holds b of a 8;");
+        s.due("of six towns the last", x.pair(5, 4, 0), 7);
+        s.due("of six towns no seventh one", x.pair(0, 6, 0), NONE);
+        s.due("of six towns no seventh one either", x.pair(6, 0, 0), NONE);
     }
 
     private static void mail(Sentences s) {
@@ -318,6 +323,11 @@ final class CallSentences {
         }
         s.due("no letter is written by it", x.has(4), 0);
         s.due("a new object", new ReplyStamps().writes(0), NONE);
+        x = Check.of(SIX + "cart a to b days 1;cart a to f days 1;holds b of a 1;holds f of a 1;");
+        int[] ofSix = {NONE, 0, NONE, NONE, NONE, 0, NONE};
+        for (int town = 0; town <= 6; town++) {
+            s.due("of six towns: writes(" + town + ")", x.writes(town), ofSix[town]);
+        }
     }
 
     private static void later(Sentences s) {
