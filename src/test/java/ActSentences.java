@@ -120,6 +120,10 @@ final class ActSentences {
             not(s, 3, "give(1, " + town + ", 0)", y -> y.give(1, town, 0) ? 1 : 0, 0);
             not(s, 3, "give(1, 2, " + town + ")", y -> y.give(1, 2, town) ? 1 : 0, 0);
         }
+        for (int[] no : Sentences.NO_PAIRS) {
+            not(s, 3, "give" + Arrays.toString(no), y -> y.give(no[0], no[1], 0) ? 1 : 0, 0);
+            not(s, 3, "give" + Arrays.toString(no) + " to c", y -> y.give(no[0], no[1], 2) ? 1 : 0, 0);
+        }
     }
 
     private static void find(Sentences s) {
@@ -137,6 +141,9 @@ final class ActSentences {
             not(s, 3, "find(" + town + ", 0)", y -> y.find(town, 0) ? 1 : 0, 0);
             not(s, 3, "find(0, " + town + ")", y -> y.find(0, town) ? 1 : 0, 0);
         }
+        for (int[] no : Sentences.NO_PAIRS) {
+            not(s, 3, "find" + Arrays.toString(no), y -> y.find(no[0], no[1]) ? 1 : 0, 0);
+        }
     }
 
     private static void burn(Sentences s) {
@@ -152,6 +159,9 @@ final class ActSentences {
         for (int town : Sentences.NO_TOWNS) {
             not(s, 3, "burn(" + town + ", 0)", y -> y.burn(town, 0), NONE);
             not(s, 3, "burn(1, " + town + ")", y -> y.burn(1, town), NONE);
+        }
+        for (int[] no : Sentences.NO_PAIRS) {
+            not(s, 3, "burn" + Arrays.toString(no), y -> y.burn(no[0], no[1]), NONE);
         }
     }
 
@@ -183,6 +193,12 @@ final class ActSentences {
         s.due("the oldest one is back", x.kept(0, 0), 1);
         s.due("and the newest", x.kept(29, 0), 30);
         s.due("none behind", x.kept(30, 0), NONE);
+        x.days(60);
+        x.days(9);
+        s.due("the newest of 50", x.kept(49, 0), 99);
+        x.undo();
+        s.due("the newest of 50 is as it was", x.kept(49, 0), 90);
+        s.due("the oldest of 50, too", x.kept(0, 0), 41);
     }
 
     private static void acted(ReplyStamps x, int act) {
@@ -242,13 +258,15 @@ final class ActSentences {
         int[][] want = {{3, 0, 1, 0}, {3, 1, 0, 0}, {4, 0, 1, 1}};
         s.table("kept", x::kept, want);
         s.of(28, "NONE when there is none such, or for others.");
-        for (int k : new int[] {-1, 3, 50, MIN, MAX}) {
+        for (int k : new int[] {-1, 3, 4, 49, 50, 51, MIN, MAX}) {
             s.due("kept(" + k + ", 0)", x.kept(k, 0), NONE);
         }
         for (int what : new int[] {-1, 4, MIN, MAX}) {
             s.due("kept(0, " + what + ")", x.kept(0, what), NONE);
         }
         s.due("none kept", Check.of(THREE).kept(0, 0), NONE);
+        x.undo();
+        s.due("undone, so not kept", x.kept(2, 0), NONE);
         x = Check.of(AB + "cart a to b days 1;holds a of b 1;");
         x.days(70);
         s.due("the 50th", x.kept(49, 0), 69);

@@ -275,6 +275,9 @@ final class CallSentences {
             s.due("pair(" + town + ", 0, 0)", x.pair(town, 0, 0), NONE);
             s.due("pair(0, " + town + ", 3)", x.pair(0, town, 3), NONE);
         }
+        for (int[] no : Sentences.NO_PAIRS) {
+            s.due("pair" + Arrays.toString(no), x.pair(no[0], no[1], 0), NONE);
+        }
         for (int what = 0; what < 4; what++) {
             s.due("pair(1, 1, " + what + ")", x.pair(1, 1, what), NONE);
         }
@@ -294,7 +297,7 @@ final class CallSentences {
         int[][] want = {{0, 1, 1}, {1, 0, 1}, {0, 1, 2}};
         s.table("mail", x::mail, want);
         s.of(9, "NONE when there is none such, or for others.");
-        for (int k : new int[] {-1, 3, 60, MIN, MAX}) {
+        for (int k : new int[] {-1, 3, 4, 59, 60, 61, MIN, MAX}) {
             s.due("mail(" + k + ", 0)", x.mail(k, 0), NONE);
         }
         for (int what : new int[] {-1, 3, MIN, MAX}) {
@@ -346,6 +349,9 @@ final class CallSentences {
             s.due("later(" + town + ", 0, 1, 0)", x.later(town, 0, 1, 0), NONE);
             s.due("later(0, " + town + ", 1, 0)", x.later(0, town, 1, 0), NONE);
         }
+        for (int[] no : Sentences.NO_PAIRS) {
+            s.due("later" + Arrays.toString(no), x.later(no[0], no[1], 1, 0), NONE);
+        }
         s.due("one town", x.later(1, 1, 1, 0), NONE);
         for (int n : new int[] {-1, 61, MIN, MAX}) {
             s.due("later(0, 1, " + n + ", 0)", x.later(0, 1, n, 0), NONE);
@@ -371,6 +377,11 @@ final class CallSentences {
         for (int town : Sentences.NO_TOWNS) {
             s.due("comes(" + town + ", 0)", x.comes(town, 0), NONE);
             s.due("comes(0, " + town + ")", x.comes(0, town), NONE);
+        }
+        ReplyStamps replies = Check.of(THREE + "cart b to c days 1;");
+        s.due("b to c", replies.comes(1, 2), 3);
+        for (int[] no : Sentences.NO_PAIRS) {
+            s.due("comes" + Arrays.toString(no), replies.comes(no[0], no[1]), NONE);
         }
         s.due("one town", x.comes(1, 1), NONE);
         s.due("it is day 0 still", x.has(2), 0);
@@ -436,6 +447,9 @@ final class CallSentences {
         for (int town : Sentences.NO_TOWNS) {
             s.due("cut(" + town + ", 0, NONE)", x.cut(town, 0, NONE), NONE);
             s.due("cut(0, " + town + ", NONE)", x.cut(0, town, NONE), NONE);
+        }
+        for (int[] no : Sentences.NO_PAIRS) {
+            s.due("cut" + Arrays.toString(no), x.cut(no[0], no[1], NONE), NONE);
         }
         s.due("one town", x.cut(1, 1, NONE), NONE);
         for (int k : new int[] {-2, 1, 2, 3, MIN, MAX}) {

@@ -9,6 +9,7 @@ final class FaultSentences {
     static void all(Sentences s) {
         first(s);
         noUnion(s);
+        noSign(s);
         tooLong(s);
         names(s);
         numbers(s);
@@ -45,6 +46,12 @@ final class FaultSentences {
         s.faultAt(1, AB + "cart a ^tob b days 1;");
         s.faultAt(1, "town a;^" + (char) 255);
         s.faultAt(1, "town a;^" + (char) 0);
+        for (String more : new String[] {"likes 1+1", "likes 1-1", "likes 1*1", "likes 1/1", "likes 1%1", "likes 1+1*1-1",
+            "writes all or all", "writes all and all", "writes not all", "writes 1<1", "writes all or all and 1=1+1*1"}) {
+            s.faultAt(1, more + "^$");
+            s.faultAt(1, more + "  ^$");
+            s.faultAt(1, more + "^");
+        }
         s.of(5, "at the text's length, if it ends too soon;");
         s.faultAt(1, "town^");
         s.faultAt(1, "town \n^");
@@ -55,6 +62,26 @@ final class FaultSentences {
         s.faultAt(1, "encl" + " ".repeat(1596) + "^");
         // a word is whole: one that ends too soon is another word
         s.faultAt(1, "encl 1;^enc");
+    }
+
+    /** Where one of these signs must be, or a word, no other byte is, and no number. */
+    private static void noSign(Sentences s) {
+        s.of(5, "1 the first byte with which no UNION goes on");
+        String[] ahead = {"town a", AB + "cart a", AB + "holds a", "encl 1", "likes min", "likes min(1", "likes (1", "writes all",
+            "writes 1", "writes [all", "likes if", "likes if(all", "likes if(all,1", "likes if(all,1,1"};
+        String[] signs = {";", "", "", ";", "(", "+-*/%,", "+-*/%)", ";", "+-*/%<>=", "]", "(", ",", "+-*/%,", "+-*/%)"};
+        for (int i = 0; i < ahead.length; i++) {
+            for (char octet = 0; octet < 256; octet++) {
+                boolean ofWord = octet >= 'a' && octet <= 'z' || octet >= '0' && octet <= '9';
+                boolean blank = octet == 10 || octet == 32;
+                if (!ofWord && !blank && signs[i].indexOf(octet) < 0) {
+                    s.faultAt(1, ahead[i] + "^" + octet + "1;");
+                }
+            }
+            for (int number = 0; number <= 999; number++) {
+                s.faultAt(1, ahead[i] + " ^" + number + " 1;");
+            }
+        }
     }
 
     private static void tooLong(Sentences s) {
@@ -131,8 +158,11 @@ final class FaultSentences {
         s.faultAt(1, "likes (((((((^[");
         s.faultAt(1, "likes (((((((^not");
         // what is closed is open no more
-        s.fine("likes " + "(1)+".repeat(20) + "1;", 1);
-        s.fine("writes " + "[all]or ".repeat(20) + "all;", 1);
+        for (String sign : new String[] {"+", "-", "*", "/", "%"}) {
+            s.fine("likes " + ("(1)" + sign).repeat(20) + "(((((((1)))))));", 1);
+        }
+        s.fine("writes " + "[all]or ".repeat(20) + "[[[[[[[all]]]]]]];", 1);
+        s.fine("writes " + "[all]and ".repeat(20) + "[[[[[[[all]]]]]]];", 1);
         s.fine("likes " + "min(1,1)+max(1,1)+if(all,1,1)+".repeat(9) + "(((((((1)))))));", 1);
         s.fine("likes (((((((1)))))));worth (((((((1)))))));writes [[[[[[[all]]]]]]];", 3);
     }

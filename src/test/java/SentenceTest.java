@@ -15,6 +15,8 @@ public final class SentenceTest {
         run(s, AheadSentences::all);
         run(s, CallSentences::all);
         run(s, ActSentences::all);
+        run(s, SixSentences::all);
+        run(s, ApartSentences::all);
         s.finish();
     }
 

@@ -10,6 +10,9 @@ final class Sentences extends Check {
     /** No town of three, nor of any union; with some of them a product with 6 goes around. */
     static final int[] NO_TOWNS = {-1, 3, 6, Integer.MIN_VALUE, Integer.MAX_VALUE, 715827882, -715827883, 1 << 30};
 
+    /** No two towns of three, though 6 times the first and the second are those of b and c. */
+    static final int[][] NO_PAIRS = {{0, 8}, {2, -4}, {-1, 14}, {3, -10}, {Integer.MIN_VALUE + 1, 2}};
+
     private final Document document;
     private String about = "";
     private int asked = 0;

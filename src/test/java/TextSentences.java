@@ -100,6 +100,16 @@ final class TextSentences {
         s.faultAt(1, "writes 1^;");
         s.faultAt(1, "likes ^all;");
         s.faultAt(1, "worth ^all;");
+        // wherever they stand
+        for (int n = 0; n < 40; n++) {
+            s.fine(" ".repeat(n) + "worth 1;likes got;writes sent=0;", 3);
+            s.fine("encl 1;".repeat(n) + "writes all;likes sent;worth 1;", n + 3);
+        }
+        // as long as the tape lets them be, with more behind them
+        s.fine("encl 1;likes 1" + "+1".repeat(780) + ";encl 2;lost 3;", 4);
+        s.faultAt(4, "encl 1;likes 1" + "*1".repeat(780) + ";encl 2;lost ^101;");
+        s.fine("writes all" + " or all".repeat(220) + ";encl 2;", 2);
+        s.faultAt(4, "writes all" + " and all".repeat(190) + ";encl ^4;");
     }
 
     private static void lastOnes(Sentences s) {
@@ -296,6 +306,9 @@ final class TextSentences {
         s.faultAt(1, "encl ^/;");
         s.faultAt(1, "encl ^:;");
         is(s, "9999-9998=1 and 0009=9");
+        for (int n = 0; n <= 9999; n++) {
+            is(s, n + "=" + n / 100 + "*100+" + n % 100);
+        }
         s.faultAt(1, "likes 9999^9;");
     }
 
@@ -335,5 +348,21 @@ final class TextSentences {
             s.fine("town x" + word.substring(1) + ";", 1);
         }
         s.fine("town t;town tow;town towns;town dayss;town no;town ma;", 6);
+        ownWordsElsewhere(s, words.split(", "));
+    }
+
+    /** Where one of them must be, no other one is. */
+    private static void ownWordsElsewhere(Sentences s, String[] words) {
+        String[] ahead = {"", "likes ", "worth ", "writes ", "writes not ", AB + "cart a ", AB + "cart a to b ", AB + "holds a ",
+            "encl ", "encl 1 ", "likes 1 ", "likes min ", "writes all "};
+        String parts = " held far day if min max ";
+        String[] may = {" town cart holds writes likes worth encl lost ", parts + "sent got ", parts, parts + "sent got not all ",
+            parts + "sent got not all ", " to ", " days ", " of ", " ", " ", " ", " ", " or and "};
+        for (int i = 0; i < ahead.length; i++) {
+            for (String word : words) {
+                boolean fits = may[i].contains(" " + word + " ");
+                s.faultAt(1, ahead[i] + (fits ? word + "^" : "^" + word));
+            }
+        }
     }
 }
