@@ -352,6 +352,14 @@ final class ActSentences {
         int[] most = {3, 231, 99, 99, 99, 99, 99, 99, 0};
         s.due("on() of the most", Check.at(CART, most).has(3), 198);
         s.due("no towns", Check.at("", 3, 231, 0).has(2), 999);
+        boolean[] checks = new boolean[256];
+        for (int day = 0; day <= 999; day++) {
+            s.due("on() of day " + day, Check.at(CART, day / 256, day % 256, 0, 0, 0, 0, 0, 0, 0).has(2), day);
+            checks[Check.checked(day / 256, day % 256, 0, 0, 0, 0, 0, 0, 0)[9] & 255] = true;
+        }
+        for (int check = 0; check < 251; check++) {
+            s.due("a day with the check byte " + check, checks[check], true);
+        }
     }
 
     /** Of two towns, 3 days apart, the bytes and their check byte are no image. */

@@ -4,6 +4,10 @@ import java.util.function.Consumer;
 
 /** What is on the tape or in an image, which fault there was, how much can be undone: the other answers are the same. */
 final class ApartSentences {
+    private static final String TEXT = "town a;town b;cart a to b days 2;town c;";
+    /** On day 4 a and b hold stamps of each other, c holds some of a, none holds any of c; three letters are under way. */
+    private static final int[] OCTETS = {0, 4, 2, 1, 1, 0, 0, 0, 1, 1, 1, 0, 0, 0, 3, 0, 0, 0, 0, 0, 3, 0, 1, 1, 1, 0, 2, 0, 1, 2};
+
     private ApartSentences() {
     }
 
@@ -18,30 +22,40 @@ final class ApartSentences {
         s.of(29, "AN IMAGE is written: how many bytes.");
         same(s, "behind an image", ReplyStamps::image);
         s.of(19, "The tape (it goes) tells a BAG,");
-        same(s, "with its bag's one row 16 times", x -> {
-            Check.put(x, new byte[32]);
-            x.bag();
-        });
+        same(s, "with a row 16 times", x -> bag(x, 16, 1, 2));
         s.of(27, "The seed: true;");
         same(s, "with another seed", x -> x.seed(Integer.MAX_VALUE));
         s.of(26, "The last 20 can be undone.");
         same(s, "with 20 acts that can be undone", x -> {
             for (int n = 0; n < 10; n++) {
-                x.find(2, 0);
-                x.burn(2, 0);
+                x.find(2, 1);
+                x.burn(2, 1);
             }
         });
     }
 
     private static void same(Sentences s, String name, Consumer<ReplyStamps> change) {
-        ReplyStamps before = CallSentences.busy();
-        ReplyStamps behind = CallSentences.busy();
+        ReplyStamps before = Check.at(TEXT, OCTETS);
+        bag(before, 1, 1, 2);
+        ReplyStamps behind = Check.at(TEXT, OCTETS);
+        bag(behind, 1, 1, 2);
         change.accept(behind);
         List<String> want = answers(before);
         List<String> got = answers(behind);
         for (int i = 0; i < want.size(); i++) {
             s.due(name + ": " + got.get(i) + " is " + want.get(i), got.get(i).equals(want.get(i)), true);
         }
+    }
+
+    /** So many rows of this town and this number; 2 of b fit a alone, 2 of a do not. */
+    private static void bag(ReplyStamps x, int rows, int town, int stamps) {
+        int[] octets = new int[2 * rows];
+        for (int i = 0; i < octets.length; i += 2) {
+            octets[i] = town;
+            octets[i + 1] = stamps;
+        }
+        Check.put(x, Check.bytes(octets));
+        x.bag();
     }
 
     private static void fill(ReplyStamps x, int feeds) {
@@ -53,8 +67,6 @@ final class ApartSentences {
     /** Of all that asks about three towns, then of some acts; nothing is asked of what the changes are about. */
     private static List<String> answers(ReplyStamps x) {
         List<String> all = new ArrayList<>();
-        // so that there is a ring
-        all.add("find " + x.find(0, 1) + x.find(1, 0));
         for (int what = 0; what < 8; what++) {
             all.add("has(" + what + ") " + x.has(what));
         }
@@ -68,13 +80,15 @@ final class ApartSentences {
         }
         for (int k = 0; k < 4; k++) {
             all.add("mail " + x.mail(k, 0) + " " + x.mail(k, 1) + " " + x.mail(k, 2));
-            all.add("kept " + x.kept(k, 0) + " " + x.kept(k, 1) + " " + x.kept(k, 2) + " " + x.kept(k, 3));
         }
         all.add("silent " + x.silent() + ", wide " + x.wide(-1) + ", swap " + x.swap(0));
         all.add("whose " + x.whose(0) + " " + x.whose(1) + " " + x.whose(2));
         image(all, x);
-        all.add("refused " + x.days(0) + x.give(0, 0, 0));
+        int refused = x.status(3);
+        all.add("give " + x.give(0, 0, 0) + ", refused " + (x.status(3) - refused));
         acts(all, x);
+        bag(x, 1, 0, 2);
+        all.add("whose " + x.whose(0) + " " + x.whose(1) + " " + x.whose(2));
         return all;
     }
 
@@ -87,9 +101,13 @@ final class ApartSentences {
     }
 
     private static void acts(List<String> all, ReplyStamps x) {
-        all.add("give " + x.give(1, 2, 0) + ", find " + x.find(2, 1) + ", burn " + x.burn(1, 2));
+        all.add("find " + x.find(1, 2) + ", give " + x.give(1, 2, 0) + x.give(2, 0, 1) + ", burn " + x.burn(2, 0));
         image(all, x);
-        all.add("days " + x.days(5) + ", undo " + x.undo() + x.undo());
+        all.add("days " + x.days(5));
+        for (int k = 0; k < 9; k++) {
+            all.add("kept " + x.kept(k, 0) + " " + x.kept(k, 1) + " " + x.kept(k, 2) + " " + x.kept(k, 3));
+        }
+        all.add("undo " + x.undo() + x.undo());
         image(all, x);
     }
 

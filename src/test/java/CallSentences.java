@@ -514,6 +514,7 @@ final class CallSentences {
         int[] last = new int[32];
         last[30] = 1;
         last[31] = 3;
+        x.image();
         bagOf(x, last);
         s.due("the 16th row tells, too", x.whose(0), 1);
         for (int stamps : new int[] {0, 1, 99, 100, 128, 255}) {

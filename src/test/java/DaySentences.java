@@ -21,6 +21,9 @@ final class DaySentences {
         can(s);
         likes(s);
         sixty(s);
+        sixtyAtOnce(s);
+        sixtyLost(s);
+        tenOfSixty(s);
         written(s);
         lastDay(s);
         lost(s);
@@ -171,6 +174,85 @@ final class DaySentences {
         s.due("one of 60 comes", x.days(1), 1);
         s.due("so a writes", x.pair(0, 1, 1), 1);
         s.due("and b does not", x.pair(1, 0, 1), 0);
+    }
+
+    /** On day 500 a and b hold five stamps of each other; of 60 letters, from a and b in turn, so many come now. */
+    private static ReplyStamps comingNow(int now, String more) {
+        int[] octets = new int[9 + 3 * 60];
+        octets[0] = 1;
+        octets[1] = 244;
+        octets[2] = 5;
+        octets[5] = 5;
+        octets[8] = 60;
+        for (int i = 0; i < 60; i++) {
+            octets[9 + 3 * i] = i % 2;
+            octets[10 + 3 * i] = 1 - i % 2;
+            octets[11 + 3 * i] = i < now ? 1 : 9;
+        }
+        return Check.at(AB + "cart a to b days 9;" + more, octets);
+    }
+
+    private static void acts(Sentences s, ReplyStamps x, int held) {
+        s.due("held", x.pair(0, 1, 0), held);
+        s.due("find", x.find(0, 1), true);
+        s.due("give", x.give(0, 1, 1), true);
+        s.due("burn", x.burn(0, 1), held);
+        s.due("none held", x.pair(0, 1, 0), 0);
+    }
+
+    private static void sixtyAtOnce(Sentences s) {
+        s.of(21, "those with none left come, in the order in which they were written:");
+        ReplyStamps x = comingNow(60, "");
+        s.due("60 at once", x.days(1), 60);
+        s.due("day 501", x.has(2), 501);
+        s.due("got by all", x.has(6), 60);
+        s.due("got by a", x.pair(0, 1, 2), 30);
+        s.due("held by b", x.pair(1, 0, 0), 5 + 30 - 1);
+        s.due("both write", x.has(4), 2);
+        s.due("the second is from", x.mail(1, 0), 1);
+        for (int k = 0; k < 50; k++) {
+            s.due("kept at " + k + ": day", x.kept(k, 0), 500);
+            s.due("kept at " + k + ": from", x.kept(k, 1), k % 2);
+            s.due("kept at " + k + ": lost", x.kept(k, 3), 0);
+        }
+        s.due("later", x.later(0, 1, 9, 2), 31);
+        acts(s, x, 34);
+    }
+
+    private static void sixtyLost(Sentences s) {
+        s.of(22, "BY THE SEED a LETTER that comes is LOST by a DRAW of 100 below lost (for each one that comes):");
+        ReplyStamps x = comingNow(60, "lost 100;");
+        s.due("60 lost at once", x.chance(1), 60);
+        s.due("none got", x.has(6), 0);
+        s.due("both write", x.has(4), 2);
+        s.due("the first kept is lost", x.kept(0, 3), 1);
+        s.due("the last kept is lost", x.kept(49, 3), 1);
+        s.due("the last kept is from", x.kept(49, 1), 1);
+        acts(s, x, 4);
+        for (int lost = 10; lost < 100; lost += 10) {
+            x = comingNow(60, "lost " + lost + ";");
+            int many = x.chance(1);
+            int drawn = 0;
+            int seed = 1;
+            for (int i = 0; i < 60; i++) {
+                drawn += Draw.of(seed) < lost ? 1 : 0;
+                seed = Draw.nextSeed(seed);
+            }
+            s.due("lost " + lost, many, drawn);
+            s.due("got with lost " + lost, x.has(6), 60 - drawn);
+            s.due("held with lost " + lost, x.has(3), 10 + 60 - drawn - 2);
+        }
+    }
+
+    private static void tenOfSixty(Sentences s) {
+        s.of(21, "A DAY: FIRST each LETTER under way has a DAY less; those with none left come,");
+        ReplyStamps x = comingNow(10, "writes not all;");
+        s.due("ten come", x.days(1), 10);
+        s.due("50 are left", x.has(4), 50);
+        s.due("the last of them", x.mail(49, 2), 8);
+        s.due("the first kept", x.kept(0, 0), 500);
+        s.due("the tenth kept", x.kept(9, 1), 1);
+        acts(s, x, 10);
     }
 
     private static void written(Sentences s) {

@@ -104,6 +104,8 @@ final class TextSentences {
         for (int n = 0; n < 40; n++) {
             s.fine(" ".repeat(n) + "worth 1;likes got;writes sent=0;", 3);
             s.fine("encl 1;".repeat(n) + "writes all;likes sent;worth 1;", n + 3);
+            s.fine("worth 1" + "+1".repeat(n) + ";likes got;", 2);
+            s.fine("worth if(all,1,1)" + "+1".repeat(n) + ";likes got;", 2);
         }
         // as long as the tape lets them be, with more behind them
         s.fine("encl 1;likes 1" + "+1".repeat(780) + ";encl 2;lost 3;", 4);
@@ -148,6 +150,8 @@ final class TextSentences {
     private static void sums(Sentences s) {
         s.of(4, "SUM: PRODUCT { + or - PRODUCT }.");
         is(s, "1+2*3-4+5=8");
+        is(s, "1" + "+1".repeat(700) + "=701");
+        is(s, "7*2" + "-1*2".repeat(300) + "+600=14");
         s.faultAt(1, "likes ^;");
         s.faultAt(1, "likes ^-1;");
         s.faultAt(1, "likes 1+^;");
